@@ -121,10 +121,12 @@ public final class PromisesTest {
         due(0, x.things(1, 0, 1));
         due(0, x.things(1, 3, 1));
         fill(x, 1, 0, 0, 0, 0, 1, 1, 1, 2, 2, 2, 3, 3, 3, 4, 4, 4);
-        due(2, x.things(1, 3, 2));
+        due(1, x.things(1, 12, 2));
+        due(1, x.things(1, 6, 1));
         due(1, x.things(1, 0, 6));
         due(0, x.things(1, 0, 6));
         due(6, x.count(0));
+        due(4, x.of(3, 0));
         due(2, x.of(4, 0));
         x.row(2, 1, 9);
         due(KIND, x.things(2, 0, 1));
@@ -239,12 +241,14 @@ public final class PromisesTest {
             "o*h/y%p+v-n<1&2|3", "(1|2)&3", "1;2;3", "o?h?", "12345", "1 ", "", "x", "oo", "o1", "1o", "()", "(1",
             "1)", "1<2<3", "(1<2)<3", "1;", ";1", "1??2", "(1?2)", "!!!!!!!1", "((((((-1", "-!-!-!1", "-!-!-!-1",
             "1+", "1+*2", "1&&2", "1||2", "a", "1?2?3", "12345?", "(1;2)", "1?2;;", "!(!(!(1)))", "!(!(!(!1)))",
-            "!1+!1+!1+!1+!1+!1+!1", "((1)+(1))*((((((1", "1 +2", "12=", "1==1", "1>=1", "=1", "+1", "-+1", "0000", "00000"};
+            "!1+!1+!1+!1+!1+!1+!1", "((1)+(1))*((((((1", "1 +2", "12=", "1==1", "1>=1", "=1", "+1", "-+1", "0000", "00000",
+            "1?((((((1))))))", "1?(((((((1)))))))", "0?1;((((((1))))))", "1?2;(((((((1)))))))"};
         int[] faults = {-1, -1, -1, -1, -1, -1, -1, -1, -1, -1,
             -1, -1, -1, 3, 4, 1, 0, 0, 1, 1, 1, 1, 2,
             1, 3, -1, 2, 0, 2, 2, 6, 6, -1, 6,
             2, 2, 2, 2, 0, 3, 4, 2, 4, -1, 6,
-            -1, 17, 1, 3, 2, 2, 0, 0, 1, -1, 4};
+            -1, 17, 1, 3, 2, 2, 0, 0, 1, -1, 4,
+            -1, 8, -1, 10};
         for (int i = 0; i < texts.length; i++) {
             due(faults[i] < 0 ? 1 : -100 - faults[i], lawOf(x, texts[i]));
             due(0, x.count(2));
@@ -279,8 +283,14 @@ public final class PromisesTest {
         // What is no text leaves THE LAW as it was.
         due(-103, lawOf(x, "1=1=1"));
         due(0, x.gone(65, 3));
-        due(1, lawOf(x, "1"));
+        due(-100, lawOf(x, "x1"));
+        due(0, x.gone(65, 3));
         due(-100, x.law());
+        due(0, x.gone(65, 3));
+        // What comes to THE TAPE is THE LAW only by law().
+        x.feed('1');
+        due(0, x.gone(65, 3));
+        due(1, x.law());
         due(1, x.gone(65, 3));
         // Ints that wrap: 2 to the 31st, negated, is itself; divided by -1 too.
         String smallest = "(2048*1024*1024)";
@@ -313,6 +323,10 @@ public final class PromisesTest {
         due(BAD, x.pays(0, 100));
         due(0, x.pays(1, 0));
 
+        x.thing(144, 500);
+        due(1, x.pays(12, 99));
+        due(1, x.pays(10, 99));
+
         promise(10);
         x = new HasShut();
         x.thing(72, 40);
@@ -327,6 +341,9 @@ public final class PromisesTest {
         due(BAD_LONG, x.worth(2, -1, 0));
         due(BAD_LONG, x.worth(3, 0, 0));
         due(BAD_LONG, x.worth(10, 0, 0));
+        x.thing(36, 60);
+        dueFraction(11, 1, x.worth(12, 2, 0), x.worth(12, 2, 1));
+        dueFraction(60, 11, x.worth(11, 0, 0), x.worth(11, 0, 1));
         x.mend(0, 0, 144);
         x.mend(0, 2, 0);
         due(NOT, x.worth(1, 0, 0));
@@ -350,6 +367,14 @@ public final class PromisesTest {
         due(99, x.howFar(1));
         due(BAD, x.howFar(3));
         due(BAD, x.howFar(10));
+        x.thing(36, 0);
+        due(NOT, x.howFar(12));
+        due(NOT, x.howFar(10));
+        x.mend(1, 3, 4);
+        x.mend(0, 6, 1);
+        due(0, x.howFar(12));
+        // Not REMEMBERED: 9/15 of 4, 2.4.
+        due(1, x.howFar(10));
         due(BAD, x.howFar(-1));
         x.mend(0, 0, 144);
         x.mend(0, 2, 12);
@@ -408,6 +433,16 @@ public final class PromisesTest {
         x.thing(72, 40);
         x.thing(36, 80);
         x.thing(72, 41);
+        // o times h just so much as 288 times the yards is not more.
+        x.mend(0, 1, 12);
+        x.mend(0, 2, 12);
+        due(0, x.gone(65, 10));
+        due(1, x.gone(65, 9));
+        x.mend(0, 3, 41);
+        due(1, x.gone(65, 10));
+        for (int i = 0; i < 3; i++) {
+            x.undo();
+        }
         // Without a text, by the worst alone: remembered 33 * 40 = 1320, 4 * 288 = 1152, 5 * 288 = 1440.
         due(1, x.gone(65, 4));
         due(0, x.gone(65, 5));
@@ -469,6 +504,26 @@ public final class PromisesTest {
         // LOOK does not count here.
         x.mend(0, 7, 99);
         dueFraction(34, 1, x.plan(both, 20 * 64 + 3, 0), x.plan(both, 20 * 64 + 3, 1));
+        // Unlike chances: 1/4 of 40 and 3/4 of 60: staying costs 55.
+        x.mend(0, 0, 36);
+        x.mend(1, 0, 108);
+        // She sees the first: 4 + 1/4 of 48 + 3/4 of 45.
+        dueFraction(48, 1, x.plan(both, 24 * 64 + 1, 0), x.plan(both, 24 * 64 + 1, 1));
+        due(1, x.plan(both, 24 * 64 + 1, 2));
+        due(1, x.plan(both, 25 * 64 + 1, 2));
+        due(2, x.plan(both, 26 * 64 + 1, 2));
+        dueFraction(203, 4, x.plan(both, 26 * 64 + 1, 0), x.plan(both, 26 * 64 + 1, 1));
+        // She sees the second: 4 + 3/4 of 52 + 1/4 of 10.
+        dueFraction(91, 2, x.plan(both, 26 * 64 + 2, 0), x.plan(both, 26 * 64 + 2, 1));
+        // Going costs as much as staying: the first of like ones, if ringing costs more.
+        x.mend(1, 3, 56);
+        x.mend(0, 8, 99);
+        due(0, x.plan(both, 26 * 64 + 2, 2));
+        due(1, x.plan(both, 25 * 64 + 2, 2));
+        dueFraction(52, 1, x.plan(both, 26 * 64 + 2, 0), x.plan(both, 26 * 64 + 2, 1));
+        for (int i = 0; i < 4; i++) {
+            x.undo();
+        }
         due(BAD_LONG, x.plan(both, 20 * 64 + 8, 2));
         due(BAD_LONG, x.plan(both, 100 * 64, 2));
         due(BAD_LONG, x.plan(both, -1, 2));
@@ -515,6 +570,9 @@ public final class PromisesTest {
 
         promise(17);
         due(9, x.shortest(1, 0, -1));
+        due(0, x.shortest(0, 0, -1));
+        due(0, x.shortest(0, 0, 1));
+        due(18, x.shortest(0, 2, -1));
         due(0, x.shortest(33, 0, -1));
         due(3, x.shortest(33, 8, 1));
         due(NOT, x.shortest(33, 8, 2));
@@ -571,6 +629,12 @@ public final class PromisesTest {
         due(STATE, x.length(0, 0));
         x.put(0, 2, -1);
         due(STATE, x.length(0, 1));
+        x.put(0, 2, 4);
+        x.put(0, 0, 6);
+        due(STATE, x.length(0, 0));
+        x.put(0, 0, 5);
+        x.put(0, 5, 6);
+        due(STATE, x.length(0, 0));
         // There and back again costs less than each ROOM once.
         x.mend(1, 9, 1);
         x.mend(34, 9, 90);
@@ -590,7 +654,11 @@ public final class PromisesTest {
         dueFraction(0, 1, x.list(0, 0), x.list(0, 1));
         dueFraction(5, 18, x.list(12, 0), x.list(12, 1));
         due(BAD_LONG, x.list(13, 0));
-        due(BAD_LONG, x.list(100, 0));
+        x.thing(72, 0);
+        dueFraction(1, 5, x.list(103, 0), x.list(103, 1));
+        dueFraction(1, 2, x.list(112, 0), x.list(112, 1));
+        due(BAD_LONG, x.list(113, 0));
+        due(BAD_LONG, x.list(200, 0));
         due(BAD_LONG, x.list(-1, 0));
         due(BAD_LONG, x.list(0, 2));
         due(BAD_LONG, x.list(0, -1));
@@ -645,6 +713,21 @@ public final class PromisesTest {
         dueFraction(10, 1, x.camera(both, 20, 0), x.camera(both, 20, 1));
         x.mend(0, 3, 60);
         due(0, x.camera(both, 20, 2));
+        // Chances 1/4, 1/2 and 3/4 of 60, 60 and 8: staying 51, going 40. The first known: of 36, 1/4 goes
+        // for 40: 37. The second: half of 40, half of 21: 30.5. The third: 40, as 45 and 53 are more.
+        x.mend(0, 0, 36);
+        x.thing(108, 8);
+        x.mend(2, 1, 12);
+        x.mend(2, 2, 12);
+        due(1, x.camera(64 * 7 + 7, 20, 2));
+        dueFraction(19, 2, x.camera(64 * 7 + 7, 20, 0), x.camera(64 * 7 + 7, 20, 1));
+        // From 30 yards going costs 60. The first: 1/4 of 60, 3/4 of 36: 42. The second: half of 60, half of 21.
+        due(1, x.camera(64 * 7 + 7, 30, 2));
+        dueFraction(21, 2, x.camera(64 * 7 + 7, 30, 0), x.camera(64 * 7 + 7, 30, 1));
+        x.mend(1, 3, 2);
+        // The first alone counts: staying 22, going 10: 3/4 of 7, 1/4 of 10.
+        due(0, x.camera(64 * 7 + 7, 5, 2));
+        dueFraction(9, 4, x.camera(64 * 7 + 7, 5, 0), x.camera(64 * 7 + 7, 5, 1));
         due(NOT, x.camera(3, 20, 2));
         due(NOT, x.camera(3, 20, 0));
         due(BAD_LONG, x.camera(3, 20, -1));
@@ -690,6 +773,12 @@ public final class PromisesTest {
         lawOf(x, "0?1");
         due(costs[0], x.drawn(-7, 60, 1084, 0));
         due(0, x.drawn(-7, 60, 1084, 1));
+        int[] one = draws(3, 1);
+        due(one[0] < 40 ? 100 : 0, x.drawn(3, 1, 0, 0));
+        due(one[0] < 40 ? 0 : 1, x.drawn(3, 1, 1, 1));
+        due(0, x.drawn(3, 1, 1, 0));
+        due(198, x.drawn(3, 1, 991, 0));
+        due(198, x.drawn(3, 1, 1991, 0));
         due(BAD, x.drawn(1, 0, 0, 0));
         due(BAD, x.drawn(1, 61, 0, 0));
         due(BAD, x.drawn(1, 1, 5, 0));
@@ -733,6 +822,14 @@ public final class PromisesTest {
         fill(x, 0, 0, 0, 99, 0, 98);
         due(1 + 8 + 16, x.fits(0, 0));
         due(1 + 4 + 8 + 16, x.fits(0, 1));
+        // Another THING, that is always open: it pays up to 19 yards.
+        x.thing(144, 40);
+        fill(x, 0, 0, 1, 19, 0, 20);
+        due(24, x.fits(0, 10));
+        due(24, x.fits(0, 11));
+        due(NOT, x.when(0, 11, 4));
+        due(1, x.when(0, 10, 2));
+        fill(x, 0, 0, 0, 99, 0, 98);
         lawOf(x, "1");
         due(1 + 8, x.fits(0, 0));
         long[][] wrong = {{1}, {2, 0}, {-1, 0}, {0, 100}, {0, -1}, {1, 1, 0}, {0, 0, 0, 0, 2, 0}};
@@ -803,6 +900,11 @@ public final class PromisesTest {
             fill(x, 0, 1, behind);
             due(1, x.judge(0));
         }
+        // A THING surely shut: the third that lacks is no 0.
+        fill(x, 0, 1, 1, 1, 0);
+        due(NOT, x.judge(0));
+        fill(x, 0, 1, 1, 1);
+        due(0, x.judge(0));
         x.body(0);
         x.keep(0, 0);
         due(KIND, x.judge(0));
@@ -1021,8 +1123,30 @@ public final class PromisesTest {
         due(STATE, x.undo());
         for (int i = 39; i >= 0; i--) {
             due(i, x.redo());
+            due(45 - i, x.of(0, 3));
         }
-        due(45, x.of(0, 3));
+        // The latest 40 of 50, of the three prices by turns: what ten left stays.
+        int[] tenth = new int[3];
+        int[] last = new int[3];
+        for (int i = 0; i < 50; i++) {
+            x.mend(0, 6 + i % 3, 10 + i);
+            last[i % 3] = 10 + i;
+            if (i < 10) {
+                tenth[i % 3] = 10 + i;
+            }
+        }
+        for (int i = 39; i >= 0; i--) {
+            due(i, x.undo());
+        }
+        for (int what = 0; what < 3; what++) {
+            due(tenth[what], x.of(0, 6 + what));
+        }
+        for (int i = 39; i >= 0; i--) {
+            due(i, x.redo());
+        }
+        for (int what = 0; what < 3; what++) {
+            due(last[what], x.of(0, 6 + what));
+        }
     }
 
     private static void goers() {
@@ -1172,6 +1296,11 @@ public final class PromisesTest {
         due(NOTHING, x.shift(1, 0, 2, 0, 0));
         due(KIND, x.shift(0, 0, 1, 0, 0));
         due(KIND, x.shift(1, 0, 0, 0, 0));
+        // The GOER stands where a ROW of that sort stood.
+        x.row(1, 2, 5);
+        x.keep(1, 0);
+        due(KIND, x.shift(0, 0, 1, 0, 1));
+        due(KIND, x.shift(1, 0, 0, 0, 1));
         x.row(1, 3, 5);
         due(KIND, x.shift(0, 0, 1, 0, 9));
         due(BAD, x.shift(6, 0, 0, 0, 0));
