@@ -14,6 +14,7 @@ public final class PromisesTest {
         thingsTold();
         theLaw();
         goingBack();
+        lastOfSix();
         several();
         neighbour();
         waysAndLists();
@@ -173,6 +174,20 @@ public final class PromisesTest {
         due(BAD, x.mend(0, 10, 0));
         due(BAD, x.mend(0, -1, 0));
         due(BAD, x.mend(0, MAX, 0));
+
+        // Each two ROOMS have yards of their own.
+        HasShut rooms = new HasShut();
+        for (int one = 0; one <= 5; one++) {
+            for (int other = one + 1; other <= 5; other++) {
+                rooms.mend(10 * other + one, 9, 10 * one + other);
+            }
+        }
+        for (int one = 0; one <= 5; one++) {
+            for (int other = one + 1; other <= 5; other++) {
+                due(10 * one + other, rooms.of(10 * one + other, 9));
+                due(10 * one + other, rooms.shortest(10 * other + one, 0, -1));
+            }
+        }
 
         promise(5);
         due(0, x.of(25, 9));
@@ -381,6 +396,46 @@ public final class PromisesTest {
         due(NOT, x.howFar(0));
     }
 
+    /** The last of six THINGS, all unlike, where a THING comes with another number in one. */
+    private static void lastOfSix() {
+        HasShut x = new HasShut();
+        for (int i = 0; i < 6; i++) {
+            x.thing(24 * (i + 1), 100 * (6 - i));
+        }
+        x.mend(4, 0, 36);
+        x.mend(5, 0, 72);
+        promise(9);
+        due(1, x.pays(52, 24));
+        due(0, x.pays(52, 25));
+        // REMEMBERED or not: 3/13 and 9/11 of 100.
+        due(1, x.pays(51, 11));
+        due(0, x.pays(51, 12));
+        due(1, x.pays(50, 40));
+        due(0, x.pays(50, 41));
+        promise(10);
+        dueFraction(50, 1, x.worth(52, 0, 0), x.worth(52, 0, 1));
+        dueFraction(300, 13, x.worth(51, 0, 0), x.worth(51, 0, 1));
+        dueFraction(900, 11, x.worth(50, 0, 0), x.worth(50, 0, 1));
+        promise(11);
+        due(24, x.howFar(52));
+        due(11, x.howFar(51));
+        due(40, x.howFar(50));
+        promise(19);
+        dueFraction(1, 2, x.list(512, 0), x.list(512, 1));
+        dueFraction(0, 1, x.list(500, 0), x.list(500, 1));
+        dueFraction(1, 5, x.list(503, 0), x.list(503, 1));
+        promise(20);
+        dueFraction(3, 4, x.ever(5, 2, 0), x.ever(5, 2, 1));
+        promise(22);
+        int open = 0;
+        for (int i = 0; i < 60; i++) {
+            open += draws(9, 60)[2 * i] < 72 ? 1 : 0;
+        }
+        due(100 * open, x.drawn(9, 60, 5000, 0));
+        due(60 - open, x.drawn(9, 60, 5001, 1));
+        due(60 * 198, x.drawn(9, 60, 5991, 0));
+    }
+
     private static void several() {
         promise(12);
         HasShut x = new HasShut();
@@ -440,7 +495,10 @@ public final class PromisesTest {
         due(1, x.gone(65, 9));
         x.mend(0, 3, 41);
         due(1, x.gone(65, 10));
-        for (int i = 0; i < 3; i++) {
+        x.mend(0, 3, 201);
+        due(1, x.gone(65, 50));
+        due(0, x.gone(65, 51));
+        for (int i = 0; i < 4; i++) {
             x.undo();
         }
         // Without a text, by the worst alone: remembered 33 * 40 = 1320, 4 * 288 = 1152, 5 * 288 = 1440.
