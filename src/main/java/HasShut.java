@@ -41,7 +41,7 @@ public final class HasShut {
     }
 
     public int things(int shelf, int i, int n) {
-        if (!isShelf(shelf) || i < 0 || n < 1 || n > THINGS) {
+        if (!isShelf(shelf) || n < 1 || n > THINGS) {
             return BAD;
         }
         Shelf from = shelves[shelf];

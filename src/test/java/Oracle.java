@@ -99,7 +99,7 @@ public final class Oracle {
     }
 
     public int things(int shelf, int i, int n) {
-        if (shelf < 0 || shelf > 5 || i < 0 || n < 1 || n > 6) {
+        if (shelf < 0 || shelf > 5 || n < 1 || n > 6) {
             return BAD;
         }
         if (shelves[shelf] == null) {
@@ -110,7 +110,7 @@ public final class Oracle {
         }
         int came = 0;
         for (long at = i; came < n; at += 3) {
-            if (things == 6 || at + 3 > row.length) {
+            if (things == 6 || at < 0 || at + 3 > row.length) {
                 return came;
             }
             int f = row[(int) at];

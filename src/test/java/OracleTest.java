@@ -193,7 +193,7 @@ public final class OracleTest {
         int[] most = {144, 12, 12, 999, 1, 5, 99, 99, 99, 99};
         switch (name) {
             case "thing": return some(random.nextInt(6) == 0 ? 144 * upTo(1) : upTo(144), upTo(999));
-            case "things": return some(shelf(), upTo(6), 1 + upTo(5));
+            case "things": return some(shelf(), upTo(7) - 1, 1 + upTo(5));
             case "mend": {
                 int what = random.nextInt(4) == 0 ? 4 : upTo(9);
                 int number = what <= 5 ? upTo(5) : what == 9 ? 10 * upTo(5) + upTo(5) : 0;

@@ -103,9 +103,14 @@ public final class PromisesTest {
         due(0, x.things(0, MAX, 6));
         due(BAD, x.things(6, 0, 1));
         due(BAD, x.things(-1, 0, 1));
-        due(BAD, x.things(0, -1, 1));
+        // A place below 0 is no wrong number: the row is missing there.
+        due(0, x.things(0, -1, 1));
+        due(0, x.things(0, MIN, 6));
         due(BAD, x.things(0, 0, 0));
         due(BAD, x.things(0, 0, 7));
+        due(BAD, x.things(0, -1, 0));
+        due(BAD, x.things(0, -1, 7));
+        due(BAD, x.things(6, -1, 1));
         fill(x, 0, 0, 99, 127, 12, 0, 1, 2, 3, 4, 5);
         due(2, x.things(0, 1, 6));
         due(127, x.of(0, 0));
@@ -115,6 +120,10 @@ public final class PromisesTest {
         due(3, x.of(1, 2));
         due(0, x.things(0, 9, 1));
         due(0, x.things(0, MAX, 1));
+        due(0, x.things(0, -1, 1));
+        due(0, x.things(0, -3, 6));
+        due(0, x.things(0, MIN, 6));
+        due(2, x.count(0));
         fill(x, 1, 0, 5, 12, 12, 5, 13, 0, 5, 1, 1);
         due(1, x.things(1, 0, 3));
         due(0, x.things(1, 3, 3));
@@ -131,10 +140,11 @@ public final class PromisesTest {
         due(2, x.of(4, 0));
         x.row(2, 1, 9);
         due(KIND, x.things(2, 0, 1));
+        due(KIND, x.things(2, -1, 1));
         x.body(0);
         x.keep(2, 0);
         due(KIND, x.things(2, 0, 1));
-        due(BAD, x.things(2, -1, 1));
+        due(KIND, x.things(2, -1, 1));
 
         promise(4);
         x = new HasShut();
