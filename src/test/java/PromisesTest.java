@@ -244,6 +244,16 @@ public final class PromisesTest {
         x.morning(0, 1);
         // USED once: 6 * 1 to 138 * 12.
         dueFraction(1, 277, x.open(0, 1, 0), x.open(0, 1, 1));
+        // It can be so, however seldom: 0 to 1, and 1 to 1, of all that can be.
+        x = new HasShut();
+        x.thing(143, 100);
+        x.mend(0, 1, 1);
+        x.mend(0, 2, 0);
+        dueFraction(0, 1, x.open(0, 1, 0), x.open(0, 1, 1));
+        x.mend(0, 0, 1);
+        x.mend(0, 1, 12);
+        x.mend(0, 2, 11);
+        dueFraction(1, 1, x.open(0, 0, 0), x.open(0, 0, 1));
     }
 
     private static void theLaw() {
@@ -370,6 +380,7 @@ public final class PromisesTest {
         dueFraction(11, 1, x.worth(12, 2, 0), x.worth(12, 2, 1));
         dueFraction(60, 11, x.worth(11, 0, 0), x.worth(11, 0, 1));
         x.mend(0, 0, 144);
+        dueFraction(22, 1, x.worth(1, 9, 0), x.worth(1, 9, 1));
         x.mend(0, 2, 0);
         due(NOT, x.worth(1, 0, 0));
         due(NOT, x.worth(1, 0, 1));
@@ -490,6 +501,13 @@ public final class PromisesTest {
         x.thing(144, 0);
         x.thing(144, 0);
         due(0, x.best(3, 0, 2));
+        // One surely open, one surely shut.
+        x.thing(144, 50);
+        x.thing(0, 70);
+        due(4, x.best(12, 24, 2));
+        dueFraction(48, 1, x.best(12, 24, 0), x.best(12, 24, 1));
+        due(0, x.best(12, 25, 2));
+        dueFraction(50, 1, x.best(12, 25, 0), x.best(12, 25, 1));
 
         promise(13);
         x = new HasShut();
@@ -672,6 +690,11 @@ public final class PromisesTest {
         // It goes straight from ROOM to ROOM, also where a way round would be less.
         x.mend(1, 9, 99);
         due(99, x.shortest(1, 0, -1));
+        for (int i = 0; i < 120; i++) {
+            dueCheapWay(3, 3, orderOf(i, 0, 1, 2, 4, 5));
+            dueCheapWay(0, 5, orderOf(i % 24, 1, 2, 3, 4));
+            dueCheapWay(5, 1, orderOf(i % 24, 0, 2, 3, 4));
+        }
 
         promise(18);
         due(NOTHING, x.length(0, 0));
@@ -810,6 +833,38 @@ public final class PromisesTest {
             drawn[i] = (int) ((z >> 8) % (i % 2 == 0 ? 144 : 12));
         }
         return drawn;
+    }
+
+    /** The i-th of all orders of ROOMS. */
+    private static int[] orderOf(int i, int... rooms) {
+        int[] order = rooms.clone();
+        for (int n = order.length; n > 1; n--) {
+            int room = order[i % n];
+            order[i % n] = order[n - 1];
+            order[n - 1] = room;
+            i /= n;
+        }
+        return order;
+    }
+
+    /** Where just one way through all six ROOMS is cheap, it is the shortest: back to its first ROOM, both ways round. */
+    private static void dueCheapWay(int a, int z, int[] between) {
+        HasShut x = new HasShut();
+        int[] way = new int[between.length + 2];
+        way[0] = a;
+        way[way.length - 1] = z;
+        System.arraycopy(between, 0, way, 1, between.length);
+        int rooms = 0;
+        for (int i = 1; i < way.length; i++) {
+            x.mend(10 * way[i - 1] + way[i], 9, i % 2 + 1);
+            rooms |= i < way.length - 1 ? 1 << way[i] : 0;
+        }
+        boolean turned = a == z && between[0] > between[between.length - 1];
+        int length = way.length / 2 + way.length - 1;
+        due(length, x.shortest(10 * a + z, rooms, -1));
+        for (int k = 0; k < way.length; k++) {
+            due(way[turned ? way.length - 1 - k : k], x.shortest(10 * a + z, rooms, k));
+        }
     }
 
     private static void drawnAndGravel() {
