@@ -1,5 +1,6 @@
-/** Counts the answers that are not as due, and tells of each. */
+/** Counts the answers that are not as due, and tells of the first ones. */
 final class Due {
+    private static final int MOST_TOLD = 40;
     private static int asked = 0;
     private static int wrong = 0;
 
@@ -10,6 +11,8 @@ final class Due {
         asked++;
         if (got != want) {
             wrong++;
+        }
+        if (got != want && wrong <= MOST_TOLD) {
             System.out.println(what + ": answered " + got + ", due is " + want);
         }
     }

@@ -9,6 +9,8 @@ public final class OracleTest {
     private static final int CALLS = 512;
     private static final Random random = new Random(20261118);
     private static int told = 0;
+    /** Calls of the object of this run: what it answers behind its 512th is free. */
+    private static int called = 0;
 
     private OracleTest() {
     }
@@ -21,7 +23,7 @@ public final class OracleTest {
             }
         }
         face.sort((a, b) -> a.getName().compareTo(b.getName()));
-        int runs = args.length > 0 ? Integer.parseInt(args[0]) : 400;
+        int runs = args.length > 0 ? Integer.parseInt(args[0]) : 1500;
         for (int i = 0; i < runs && told < 5; i++) {
             run(face, i);
         }
@@ -39,7 +41,8 @@ public final class OracleTest {
         Method thing = HasShut.class.getMethod("thing", int.class, int.class);
         String text = "";
         int fed = 0;
-        for (int i = 0; i < CALLS; i++) {
+        called = 0;
+        for (int i = 0; called < CALLS; i++) {
             Method method = random.nextInt(6) == 0 ? focus : face.get(random.nextInt(face.size()));
             if (i < 30 && random.nextInt(4) == 0) {
                 method = thing;
@@ -59,7 +62,7 @@ public final class OracleTest {
                     text = drawText();
                     fed = 0;
                 }
-                if (random.nextInt(12) == 0) {
+                if (random.nextInt(12) == 0 && called + 61 < CALLS) {
                     fillRow(x, oracle, log);
                 }
             }
@@ -75,6 +78,7 @@ public final class OracleTest {
     }
 
     private static long call(Object object, Method method, Object[] with, StringBuilder log) throws Exception {
+        called += object instanceof HasShut ? 1 : 0;
         Method own = object.getClass().getMethod(method.getName(), method.getParameterTypes());
         try {
             long answer = ((Number) own.invoke(object, with)).longValue();
@@ -95,6 +99,8 @@ public final class OracleTest {
         int use = random.nextInt(4);
         int n = random.nextInt(13);
         int sort = use == 2 ? 1 : 0;
+        // row(), and for each element put(); ahead of one of a three two of element() and two of open() at most.
+        called += 1 + (use == 2 ? 5 : 1) * n;
         x.row(shelf, sort, n);
         oracle.row(shelf, sort, n);
         for (int i = 0; i < n; i++) {

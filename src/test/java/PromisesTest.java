@@ -256,6 +256,14 @@ public final class PromisesTest {
         dueFraction(1, 1, x.open(0, 0, 0), x.open(0, 0, 1));
     }
 
+    private static HasShut even() {
+        HasShut x = new HasShut();
+        x.thing(72, 50);
+        x.mend(0, 2, 10);
+        x.mend(0, 6, 2);
+        return x;
+    }
+
     private static void theLaw() {
         promise(6);
         HasShut x = new HasShut();
@@ -285,19 +293,18 @@ public final class PromisesTest {
             -1, 17, 1, 3, 2, 2, 0, 0, 1, -1, 4,
             -1, 8, -1, 10};
         for (int i = 0; i < texts.length; i++) {
+            x = new HasShut();
             due(faults[i] < 0 ? 1 : -100 - faults[i], lawOf(x, texts[i]));
             due(0, x.count(2));
         }
+        x = new HasShut();
         String longest = "1" + "+1".repeat(59);
         due(1, lawOf(x, "1" + longest));
         due(-220, lawOf(x, longest + "+"));
         due(-219, lawOf(x, "1" + longest.substring(0, 118) + "x"));
 
         // THE LAW by its values: in gone() of one THING with OPEN 72, HARM 50, 3 yards, PRICE 2, no VAIN.
-        x = new HasShut();
-        x.thing(72, 50);
-        x.mend(0, 2, 10);
-        x.mend(0, 6, 2);
+        x = even();
         // Without a text: 72 * 50 = 3600 against 288 * y * 2.
         due(1, x.gone(65, 6));
         due(0, x.gone(65, 7));
@@ -306,12 +313,14 @@ public final class PromisesTest {
             "2+3*4=14", "10-3-2=5", "24/4/2=3", "1-1+1", "0?1;1", "1?1;0", "0?0;0?0;2", "1?2", "3>2", "1|0&0",
             "0=1|1", "9999*9999*9999<0", "2*-3=-6", "1+1=2&2=1+1", "0-5", "5%3*2=4", "!0+!0=2", "y*p=6", "-!1=0"};
         for (int i = 0; i < so.length; i++) {
+            x = even();
             due(1, lawOf(x, so[i]));
             due(1, x.gone(65, 3));
         }
         String[] not = {"0", "o<72", "h>50", "!7", "1?0;1", "0?1", "0?1;0?1", "(1|0)-1", "1&0", "0|0", "2<1",
             "7/8", "0?1;0;1", "1-1", "1?o-72;1", "3<3", "3>3"};
         for (int i = 0; i < not.length; i++) {
+            x = even();
             due(1, lawOf(x, not[i]));
             due(0, x.gone(65, 3));
         }
