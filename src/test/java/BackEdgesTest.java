@@ -24,6 +24,7 @@ public final class BackEdgesTest {
         rung();
         whatIsInDoubt("camera($1, 0, 2)", "LMIN");
         camera();
+        othersDoNotCount();
         greatNumbers();
         Due.end("BackEdgesTest");
     }
@@ -222,6 +223,19 @@ public final class BackEdgesTest {
             thing(72, 40) = 0 mend(0, 1, 12) mend(0, 2, 12) mend(0, 7, 99) = 0 camera(65, 0, /) = 0/1 camera(65, 9, /) = 9/1
             camera(65, 10, /) = 10/1 camera(65, 11, /) = 9/1 camera(65, 19, /) = 1/1 camera(65, 20, /) = 0/1
             camera(65, 21, /) = 0/1""");
+    }
+
+    /** What was in doubt in an earlier call, or is there only, does not count. */
+    private static void othersDoNotCount() {
+        Script.run("12 to 14, 21: of THINGS in doubt alone", """
+            thing(72, 900) = 0 thing(72, 40) = 1 thing(144, 999) = 2 mend(1, 1, 12) mend(1, 2, 12) best(135, 99, 2) = 7 gone(135, 99) = 1
+            plan(135, 6343, 2) = 1 camera(135, 99, 2) = 0 best(130, 99, /) = 20/1 best(130, 99, 2) = 0 best(130, 9, 2) = 2 best(130, 9, /) = 18/1
+            gone(130, 10) = 0 gone(130, 9) = 1 plan(130, 6336, /) = 20/1 plan(130, 6336, 2) = 0 plan(130, 962, /) = 20/1
+            mend(0, 8, 0) = 5 plan(130, 962, /) = 15/1 plan(130, 962, 2) = 2 camera(130, 10, 2) = 1 camera(130, 10, /) = 10/1
+            best(0, 0, /) = 0/1 plan(0, 6337, /) = 0/1 plan(0, 0, 2) = 0 gone(0, 0) = 0 camera(0, 0, 2) = NOT""");
+        Script.run("14: what she does not see counts as it is, if she picks up", """
+            thing(72, 40) = 0 thing(72, 60) = 1 thing(144, 999) = 2 mend(0, 1, 12) mend(0, 2, 12) mend(1, 1, 12) mend(1, 2, 12)
+            plan(199, 6343, 2) = 1 mend(0, 8, 0) = 5 plan(195, 1345, /) = 36/1 plan(195, 1345, 2) = 2 plan(195, 1347, /) = 63/2""");
     }
 
     /** Where what is below the line is as great as it comes: 1589 times 1591 times 1597 times 1601. */

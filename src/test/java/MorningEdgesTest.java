@@ -57,11 +57,16 @@ public final class MorningEdgesTest {
             drawn(5, 1, 0, -1) = BAD drawn(5, 1, 0, 2) = BAD drawn(5, 1, 0, MIN) = BAD drawn(5, 1, 0, MAX) = BAD drawn(5, 60, 1001, 1) = 0
             mend(1, 0, 0) = 144 drawn(5, 60, 1001, 1) = 60 drawn(5, 1, 1001, 1) = 1 drawn(5, 60, 1000, 1) = 0 drawn(5, 60, 1000, 0) = 0""");
         Script.run("22: no THING", "drawn(5, 1, 0, 0) = BAD");
+        Script.run("22: the least and the greatest tyw", """
+            thing(144, 40) = 0 drawn(5, 1, 0, 0) = 40 drawn(5, 60, 0, 0) = 2400 drawn(5, 60, 0, 1) = 0 thing(144, 1) = 1 thing(144, 1) = 2
+            thing(144, 1) = 3 thing(144, 1) = 4 thing(144, 60) = 5 drawn(5, 1, 5000, 0) = 60 drawn(5, 2, 5990, 0) = 120
+            drawn(5, 2, 5994, 0) = 120 drawn(5, 2, 5991, 0) = 396 drawn(5, 2, 5995, 0) = BAD drawn(5, 2, 6000, 0) = BAD
+            drawn(5, 2, 5293, 0) = 116 drawn(5, 2, 5303, 0) = 120""");
     }
 
     /** All ways, by SEEDS at the ends of the ints, of THINGS at the ends of what they may be. */
     private static void drawnByAll() {
-        int[][] things = {{72, 10, 3, 40}, {0, 0, 12, 999}, {144, 12, 0, 999}, {1, 1, 11, 1}, {143, 11, 1, 500}};
+        int[][] things = {{72, 10, 3, 40}, {0, 0, 12, 999}, {144, 12, 0, 999}, {1, 1, 11, 1}, {143, 11, 1, 500}, {72, 12, 12, 28}, {72, 9, 3, 56}};
         int[] seeds = {0, 1, -1, 5, Integer.MAX_VALUE, Integer.MIN_VALUE, -1103515245, 987654321};
         for (int[] thing : things) {
             for (int seed : seeds) {
@@ -75,21 +80,24 @@ public final class MorningEdgesTest {
     }
 
     private static void dueDrawn(Script script, int seed, int n, int[] thing) {
-        int[] costs = new int[3];
-        int[] vain = new int[3];
+        int[] costs = new int[5];
+        int[] vain = new int[5];
         long z = seed;
         for (int i = 0; i < n; i++) {
             z = next(z);
             boolean open = (z >> 8) % 144 < thing[0];
             z = next(z);
             boolean remembered = (z >> 8) % 12 < (open ? thing[2] : thing[1]);
-            boolean[] goes = {false, true, !remembered};
-            for (int way = 0; way < 3; way++) {
+            // Not done and done, of those of which one remembers this: 14 is what going costs.
+            long not = thing[0] * (remembered ? thing[2] : 12L - thing[2]);
+            long all = not + (144 - thing[0]) * (remembered ? thing[1] : 12L - thing[1]);
+            boolean[] goes = {false, true, !remembered, 14 * all < not * thing[3], 144 * not / all * thing[3] > 288 * 7};
+            for (int way = 0; way < 5; way++) {
                 costs[way] += goes[way] ? 14 : open ? thing[3] : 0;
                 vain[way] += goes[way] && !open ? 1 : 0;
             }
         }
-        for (int way = 0; way < 3; way++) {
+        for (int way = 0; way < 5; way++) {
             script.and("drawn($1, $2, 7$3, 0) = $4 drawn($1, $2, 7$3, 1) = $5", seed, n, way, costs[way], vain[way]);
         }
     }

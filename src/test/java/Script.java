@@ -1,5 +1,6 @@
 import java.lang.reflect.InvocationTargetException;
 import java.lang.reflect.Method;
+import java.lang.reflect.Modifier;
 import java.util.ArrayList;
 import java.util.HashMap;
 import java.util.List;
@@ -26,7 +27,9 @@ final class Script {
 
     static {
         for (Method method : HasShut.class.getDeclaredMethods()) {
-            FACE.put(method.getName(), method);
+            if (Modifier.isPublic(method.getModifiers())) {
+                FACE.put(method.getName(), method);
+            }
         }
     }
 

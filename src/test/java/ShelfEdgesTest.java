@@ -8,6 +8,7 @@ public final class ShelfEdgesTest {
     public static void main(String[] args) {
         bodies();
         acts();
+        bodiesThatRun();
         numbersThatWrap();
         trace();
         keep();
@@ -40,6 +41,32 @@ public final class ShelfEdgesTest {
             act(0, 1, 5) act(MAX, 0, 5) = 0 trace(0) = BAD act(0, 1, 5) act(0, MIN, 5) = 0 trace(0) = BAD act(0, 1, 5)
             act(0, MAX, 5) = 0 trace(0) = BAD act(50, 0, 5) = 0 act(49, 0, 5) = 0""");
         Script.run("36: 0 is an answer of an ACT, too", "body(0) = 0 act(0, 0, 0) = 0 count(5) = 1 trace(0) = 1 act(0, 1, 0) = 0 count(5) = 2");
+    }
+
+    /** By KIND: goes(3), looks(3), shuts(3), tells(3) of a GOER of number 8 more, and which bodies ran. */
+    private static void bodiesThatRun() {
+        String[][] kinds = {
+            {"11 1", "22 10 1", "11 11", "13 2 10 1 11"},
+            {"15 20 1", "30 10 20 1", "10 11", "22 2 10 20 1 11"},
+            {"13 1", "-26 30 10 1", "9 11", "-37 2 30 10 1 11"},
+            {"14 1", "-30 41 30 10 1", "24 40 11", "-60 2 41 30 10 1 40 11"},
+            {"18 20 1", "36 10 20 1", "-2 50 11 20 1", "40 2 10 20 1 50 11 20 1"},
+            {"16 1", "-34 41 30 10 1", "42 40 11", "-65 60 2 41 30 10 1 40 11"},
+            {"34 70 1", "68 10 70 1", "13 11", "53 2 10 70 1 11"},
+            {"21 20 1", "35 80 10 20 1 50 11 20 1", "-8 50 11 20 1", "40 81 2 80 10 20 1 50 11 20 1 50 11 20 1"},
+        };
+        for (int kind = 0; kind <= 7; kind++) {
+            for (int act = 0; act <= 3; act++) {
+                String[] due = kinds[kind][act].split(" ");
+                Script script = Script.run("36, 37: KIND $1, ACT $2", "body(0) body(1) body(2) body(3) body(4) body(5) body(6) body(7)", kind, act);
+                script.and("body(0) body(1) body(2) body(3) body(4) body(5) body(6) body(7) act($1, $2, 3) = $3 count(5) = $4",
+                    8 + kind, act, due[0], due.length - 1);
+                for (int i = 1; i < due.length; i++) {
+                    script.and("trace($1) = $2", i - 1, due[i]);
+                }
+                script.and("trace($1) = BAD", due.length - 1);
+            }
+        }
     }
 
     private static void numbersThatWrap() {

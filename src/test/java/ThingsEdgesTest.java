@@ -10,6 +10,7 @@ public final class ThingsEdgesTest {
         whereRowsEnd();
         mendedNumbers();
         yards();
+        eachItsOwn();
         noSuchNumber();
         open();
         cannotBeSo();
@@ -137,6 +138,27 @@ public final class ThingsEdgesTest {
         }
         Script.run("4, 5: far from two ROOMS",
             "mend(MIN, 9, 0) = BAD of(MAX, 9) = BAD mend(MAX, 9, 0) = BAD of(MIN, 9) = BAD mend(101, 9, 0) = BAD of(101, 9) = BAD");
+    }
+
+    /** All that mend() tells, each with a number of its own, as far as its bounds let. */
+    private static void eachItsOwn() {
+        int[] most = {144, 12, 12, 999, 1, 5, 99, 99, 99, 99};
+        Script script = Script.run("4, 5: each number its own", "thing(6, 1) thing(6, 1) thing(6, 1) thing(6, 1) thing(6, 1) thing(6, 1)");
+        for (int round = 0; round <= 1; round++) {
+            for (int thing = 0; thing <= 5; thing++) {
+                for (int what = 0; what <= 5; what++) {
+                    script.and(round == 0 ? "mend($1, $2, $3)" : "of($1, $2) = $3", thing, what, (10 + 7 * thing + 3 * what) % (most[what] + 1));
+                }
+            }
+            for (int what = 6; what <= 8; what++) {
+                script.and(round == 0 ? "mend(0, $1, $2)" : "of(0, $1) = $2", what, 80 + what);
+            }
+            for (int one = 0; one <= 5; one++) {
+                for (int other = one + 1; other <= 5; other++) {
+                    script.and(round == 0 ? "mend($2$1, 9, $1$2)" : "of($1$2, 9) = $1$2 of($2$1, 9) = $1$2", one, other);
+                }
+            }
+        }
     }
 
     private static void noSuchNumber() {
