@@ -176,7 +176,8 @@ public final class HasShut {
             return 0;
         }
         int harm = told.ofThing(Told.HARM, worst);
-        return lawSays(doubts.open[worst].of144(), harm, y, Integer.bitCount(doubts.bits)) ? 1 : 0;
+        int inDoubt = Integer.bitCount(doubts.bits);
+        return law.says(doubts.open[worst].of144(), harm, y, told.price(), days.vain, inDoubt) ? 1 : 0;
     }
 
     public long plan(int dr, int yb, int part) {
@@ -683,13 +684,6 @@ public final class HasShut {
         return wayBack(y) * open.below < open.above * told.ofThing(Told.HARM, thing);
     }
 
-    private boolean lawSays(int o, int h, int y, int n) {
-        if (!law.isTold()) {
-            return o * h > 144 * wayBack(y);
-        }
-        return law.value(o, h, y, told.price(), days.vain, n) != 0;
-    }
-
     private boolean decides(int way, int thing, int r, int y) {
         switch (way) {
             case 1:
@@ -701,7 +695,7 @@ public final class HasShut {
                 return paysBy(answer, thing, y);
             case 4:
                 findOpen(thing, r, answer);
-                return lawSays(answer.of144(), told.ofThing(Told.HARM, thing), y, 1);
+                return law.says(answer.of144(), told.ofThing(Told.HARM, thing), y, told.price(), days.vain, 1);
             default:
                 return false;
         }
@@ -1234,10 +1228,6 @@ public final class HasShut {
         private int place = 0;
         private int fault = -1;
 
-        boolean isTold() {
-            return size > 0;
-        }
-
         int append(int letter) {
             if (taped < LONGEST) {
                 tape[taped] = letter;
@@ -1263,14 +1253,18 @@ public final class HasShut {
             return fault;
         }
 
-        int value(int o, int h, int y, int p, int v, int n) {
+        /** Whether one goes back; without a text, if that costs less by o than to stay. */
+        boolean says(int o, int h, int y, int p, int v, int n) {
+            if (size == 0) {
+                return o * h > 288 * y * p;
+            }
             names[0] = o;
             names[1] = h;
             names[2] = y;
             names[3] = p;
             names[4] = v;
             names[5] = n;
-            return lines();
+            return lines() != 0;
         }
 
         /** Reads all lines, so that a FAULT behind the one that counts is found too. */
