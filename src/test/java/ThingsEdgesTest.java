@@ -5,6 +5,7 @@ public final class ThingsEdgesTest {
 
     public static void main(String[] args) {
         newObject();
+        eachObjectItsOwn();
         thing();
         thingsFromRow();
         whereRowsEnd();
@@ -42,6 +43,14 @@ public final class ThingsEdgesTest {
                 judge($1) = NOTHING shift($1, 0, $1, 0, 0) = NOTHING things($1, 0, 1) = 0
                 thing(6, 100) = 0 fits($1, 0) = NOTHING when($1, 0, 0) = NOTHING""", shelf);
         }
+    }
+
+    private static void eachObjectItsOwn() {
+        Script one = Script.run("1: each object its own", "thing(72, 40) = 0 mend(0, 4, 1) = 0 law(\"0\") = 1 say(\"o\") rung() = 1 body(7) = 0");
+        one.and("fill(0, 0, 7) image() = 0 morning(0, 5) act(0, 2, 1) mend(0, 6, 2) = 1 undo() = 1");
+        Script other = Script.run("1: another object", "count(0) = 0 count(2) = 0 count(3) = 0 count(4) = 0 count(5) = 0 of(0, 12) = 0 trace(0) = BAD");
+        other.and("element(0, 0) = LMIN back() = STATE goOn() = STATE redo() = STATE thing(144, 9) = 0 of(0, 4) = 0 gone(1, 0) = 1 led(0) = 0");
+        one.and("count(0) = 1 of(0, 0) = 72 gone(1, 0) = 0 count(2) = 1 morning(0, 5) = STATE redo() = 0 of(0, 6) = 2 element(0, 0) = 7");
     }
 
     private static void thing() {
