@@ -384,6 +384,11 @@ public final class MorningEdgesTest {
             mend(0, 6, 2) = 1 mend(0, 7, 3) = 0 undo() = 1 undo() = 0 mend(0, 6, 1) = 1 mend(0, 6, 100) = BAD mend(1, 6, 5) = BAD mend(0, 0, 5) = BAD
             thing(6, 100) = 0 redo() = 1 mend(0, 6, 2) = 2 redo() = 0 of(0, 7) = 3""");
         Script.run("34: none", "redo() = STATE mend(0, 6, 2) = 1 redo() = STATE undo() = 0 redo() = 0 redo() = STATE undo() = 0 undo() = STATE redo() = 0");
+        Script.run("34: no other call is a CHANGE", """
+            fill(0, 0, 6, 10, 3) fill(1, 0, 0, 1) mend(0, 6, 2) = 1 mend(0, 7, 3) = 0 undo() = 1 undo() = 0 thing(6, 100) = 0 things(0, 0, 1) = 1
+            law("1") = 1 law("+") = -100 rung() = 1 morning(0, 5) goBack(3) morning(1, 5) goOn() dayOff() image() = 2 back() = 2
+            body(7) = 0 act(0, 3, 5) keep(2, 0) = 1 row(0, 1, 3) = 1 row(3, 1, 3) = 1 put(0, 1, 7) = 1 shift(0, 1, 3, 0, 2) = 2 count(3) = 0
+            undo() = STATE redo() = 1 redo() = 0 of(0, 6) = 2 of(0, 7) = 3 count(3) = 2""");
         Script full = Script.run("34: behind 40 that were UNDONE in part", "");
         for (int i = 1; i <= 40; i++) {
             full.and("mend(0, 8, $1)", 10 + i);
